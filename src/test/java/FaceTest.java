@@ -1,0 +1,122 @@
+import java.lang.reflect.Constructor;
+import java.lang.reflect.Field;
+import java.lang.reflect.Member;
+import java.lang.reflect.Method;
+import java.lang.reflect.Modifier;
+import java.util.Arrays;
+import java.util.Set;
+import java.util.TreeSet;
+
+/** The public face, with its throws clauses, and nothing else that is not private. */
+final class FaceTest {
+    private static final Checks CHECKS = new Checks();
+    private static final String INDEX = "IndexOutOfBoundsException";
+    private static final String ARGUMENT = "IllegalArgumentException";
+    private static final String STATE = "IllegalStateException";
+
+    private static final String[] FACE = {
+        "int ribbon(int, int, int) " + INDEX + " " + ARGUMENT + " " + STATE,
+        "int widen(int, int) " + INDEX + " " + ARGUMENT,
+        "int remove(int) " + INDEX,
+        "int swap(int, int) " + INDEX + " " + ARGUMENT,
+        "int sweep()",
+        "int order(int) " + INDEX,
+        "int trim(int) " + INDEX,
+        "int settle()",
+        "int append(int) " + ARGUMENT + " " + STATE,
+        "int clearBuffer()",
+        "int firstError()",
+        "int load() " + ARGUMENT,
+        "int keep(int) " + ARGUMENT,
+        "int goBack(int) " + ARGUMENT + " " + STATE,
+        "int undo() " + STATE,
+        "int postOf(int, int) " + INDEX + " " + ARGUMENT,
+        "int ribbonOf(int, int) " + INDEX + " " + ARGUMENT,
+        "int count(int) " + ARGUMENT,
+        "int ifSwapped(int, int) " + INDEX + " " + ARGUMENT,
+        "int bestOrder(int) " + INDEX,
+        "int ifSettled()",
+        "int mainRibbon()",
+        "int height(int) " + INDEX,
+        "double throughShare()",
+        "long digest()",
+    };
+
+    public static void main(String[] args) {
+        methods();
+        membersAreApart();
+        classesInside();
+        CHECKS.end();
+    }
+
+    private static String told(Method method) {
+        StringBuilder text = new StringBuilder();
+        text.append(method.getReturnType().getSimpleName()).append(' ').append(method.getName()).append('(');
+        String comma = "";
+        for (Class<?> type : method.getParameterTypes()) {
+            text.append(comma).append(type.getSimpleName());
+            comma = ", ";
+        }
+        text.append(')');
+        for (Class<?> type : method.getExceptionTypes()) {
+            text.append(' ').append(type.getSimpleName());
+        }
+        return text.toString();
+    }
+
+    private static void methods() {
+        Set<String> got = new TreeSet<>();
+        for (Method method : RibbonPosts.class.getDeclaredMethods()) {
+            if (Modifier.isPublic(method.getModifiers())) {
+                got.add(told(method));
+            }
+        }
+        Set<String> due = new TreeSet<>(Arrays.asList(FACE));
+        if (!got.equals(due)) {
+            CHECKS.report("the face is " + got + ", due is " + due);
+        }
+        int modifiers = RibbonPosts.class.getModifiers();
+        CHECKS.same("public and final", modifiers, Modifier.PUBLIC | Modifier.FINAL);
+    }
+
+    private static void membersAreApart() {
+        for (Method method : RibbonPosts.class.getDeclaredMethods()) {
+            boolean own = Modifier.isPrivate(method.getModifiers());
+            boolean named = Arrays.stream(FACE).anyMatch(line -> line.contains(" " + method.getName() + "("));
+            if (own == named) {
+                CHECKS.report("the method " + method + " is not as due");
+            }
+        }
+        for (Field field : RibbonPosts.class.getDeclaredFields()) {
+            onlyPublic(field, "NONE");
+        }
+        Constructor<?>[] made = RibbonPosts.class.getDeclaredConstructors();
+        CHECKS.same("constructors", made.length, 1);
+        CHECKS.same("parameters of the constructor", made[0].getParameterCount(), 0);
+    }
+
+    private static void onlyPublic(Member member, String name) {
+        boolean face = member.getName().equals(name);
+        if (Modifier.isPrivate(member.getModifiers()) == face) {
+            CHECKS.report("the member " + member + " is not as due");
+        }
+    }
+
+    private static void classesInside() {
+        Class<?>[] inside = RibbonPosts.class.getDeclaredClasses();
+        if (inside.length > 11) {
+            CHECKS.report("there are " + inside.length + " classes inside");
+        }
+        for (Class<?> one : inside) {
+            if (!Modifier.isStatic(one.getModifiers()) || Modifier.isPublic(one.getModifiers())
+                    || Modifier.isProtected(one.getModifiers())) {
+                CHECKS.report(one + " is not as due");
+            }
+            for (Field field : one.getDeclaredFields()) {
+                if (Modifier.isStatic(field.getModifiers()) && !Modifier.isFinal(field.getModifiers())) {
+                    CHECKS.report("the field " + field + " is static and not final");
+                }
+            }
+        }
+    }
+}
