@@ -469,7 +469,7 @@ public final class RibbonPosts {
         }
 
         int placeOf(int post) {
-            return isPost(post) ? places[post] : 0;
+            return post >= 0 && post < POSTS ? places[post] : 0;
         }
 
         void setPlace(int post, int place) {
@@ -495,15 +495,15 @@ public final class RibbonPosts {
         }
 
         int fromOf(int ribbon) {
-            return hasRibbon(ribbon) ? froms[ribbon] : 0;
+            return ribbon >= 0 && ribbon < MOST_RIBBONS ? froms[ribbon] : 0;
         }
 
         int toOf(int ribbon) {
-            return hasRibbon(ribbon) ? tos[ribbon] : 0;
+            return ribbon >= 0 && ribbon < MOST_RIBBONS ? tos[ribbon] : 0;
         }
 
         int widthOf(int ribbon) {
-            return hasRibbon(ribbon) ? widths[ribbon] : 0;
+            return ribbon >= 0 && ribbon < MOST_RIBBONS ? widths[ribbon] : 0;
         }
 
         void setWidth(int ribbon, int width) {
@@ -513,7 +513,8 @@ public final class RibbonPosts {
         }
 
         boolean goesOn(int ribbon) {
-            return columnOf(toOf(ribbon)) > columnOf(fromOf(ribbon));
+            return ribbon >= 0 && ribbon < MOST_RIBBONS
+                    && tos[ribbon] / COLUMN_POSTS > froms[ribbon] / COLUMN_POSTS;
         }
 
         /** Tells if the ribbon goes on, between just these columns. */
@@ -831,8 +832,9 @@ public final class RibbonPosts {
 
     /** Tells what all crossings count, width by width, by counting what stands ahead. */
     private static final class Ahead {
-        /** The ribbons between two columns, by the places of their begins, then of their ends. */
-        private final int[] band = new int[MOST_RIBBONS];
+        /** Of the ribbons between two columns, in this order: 4 * the place of the begin + that of the end. */
+        private final int[] ranks = new int[MOST_RIBBONS];
+        private final int[] widths = new int[MOST_RIBBONS];
         private int size;
         /** For each place how many ribbons that came so far end there. */
         private final int[] ending = new int[COLUMN_POSTS];
@@ -843,7 +845,7 @@ public final class RibbonPosts {
                 for (int later = column + 1; later < COLUMNS; later++) {
                     gather(drawing, column, later);
                     for (int width = 1; width <= WIDEST && size > 1; width++) {
-                        sum += crossingsFrom(drawing, width);
+                        sum += crossingsFrom(width);
                     }
                 }
             }
@@ -854,40 +856,35 @@ public final class RibbonPosts {
             size = 0;
             for (int ribbon = 0; ribbon < drawing.ribbons; ribbon++) {
                 if (drawing.joins(ribbon, column, later)) {
-                    putIn(drawing, ribbon);
+                    int begin = drawing.placeOf(drawing.fromOf(ribbon));
+                    int end = drawing.placeOf(drawing.toOf(ribbon));
+                    putIn(COLUMN_POSTS * begin + end, drawing.widthOf(ribbon));
                 }
             }
         }
 
-        void putIn(Drawing drawing, int ribbon) {
+        void putIn(int rank, int width) {
             if (size < 0 || size >= MOST_RIBBONS) {
                 return;
             }
             int index = size;
-            while (index > 0 && rankOf(drawing, band[index - 1]) > rankOf(drawing, ribbon)) {
-                band[index] = band[index - 1];
+            while (index > 0 && ranks[index - 1] > rank) {
+                ranks[index] = ranks[index - 1];
+                widths[index] = widths[index - 1];
                 index--;
             }
-            band[index] = ribbon;
+            ranks[index] = rank;
+            widths[index] = width;
             size++;
         }
 
-        static int rankOf(Drawing drawing, int ribbon) {
-            return COLUMN_POSTS * drawing.placeOf(drawing.fromOf(ribbon)) + endOf(drawing, ribbon);
-        }
-
-        static int endOf(Drawing drawing, int ribbon) {
-            return drawing.placeOf(drawing.toOf(ribbon));
-        }
-
         /** Of ribbons with one begin none counts another one: their ends ascend. */
-        int crossingsFrom(Drawing drawing, int width) {
+        int crossingsFrom(int width) {
             Arrays.fill(ending, 0);
             int sum = 0;
             for (int index = 0; index < size && index < MOST_RIBBONS; index++) {
-                int ribbon = band[index];
-                int end = endOf(drawing, ribbon);
-                if (drawing.widthOf(ribbon) >= width && end >= 0 && end < COLUMN_POSTS) {
+                int end = ranks[index] % COLUMN_POSTS;
+                if (widths[index] >= width && end >= 0) {
                     for (int place = end + 1; place < COLUMN_POSTS; place++) {
                         sum += ending[place];
                     }

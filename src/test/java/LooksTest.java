@@ -33,6 +33,10 @@ final class LooksTest {
         postAllOf(posts, 12, 0, 5, 0, 1, 0, 0, 1, 5);
         postAllOf(posts, 15, 3, 4, 0, 1, 0, 0, 1, 4);
         CHECKS.same("saved after looks", posts.count(9), 4);
+        posts = Checks.drawn("pa3;ea5;am1");
+        postAllOf(posts, 0, 0, 0, 1, 0, 1, 2, 1, 1);
+        postAllOf(posts, 4, 0, 0, 0, 0, 0, 1, 1, 0);
+        postAllOf(posts, 15, 3, 0, 0, 0, 0, 1, 1, 0);
     }
 
     private static void wrongPosts() {

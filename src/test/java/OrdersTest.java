@@ -76,6 +76,11 @@ final class OrdersTest {
         posts.sweep();
         // f has its own place 1, e and g have 2, and e stood before g.
         CHECKS.same("own places", Checks.places(posts, 1), 1023);
+        posts = Checks.drawn("cf1");
+        posts.swap(4, 5);
+        posts.sweep();
+        // e has its own place 1, as it stood; f has 2 and stood before g.
+        CHECKS.same("own places as they stood", Checks.places(posts, 1), 123);
         posts = new RibbonPosts();
         posts.swap(4, 7);
         CHECKS.same("sweep without ribbons", posts.sweep(), 0);

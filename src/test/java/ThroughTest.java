@@ -4,6 +4,7 @@ final class ThroughTest {
 
     public static void main(String[] args) {
         through();
+        looksAreFresh();
         mainRibbon();
         mainOfZeros();
         share();
@@ -33,8 +34,29 @@ final class ThroughTest {
         goes("ma9;ae2;em8", 2, 1, 1.0);
         // The second way takes back what the first one took from e to i.
         goes("ae1;af1;ei1;ej1;fi1;im1;jm1", 2, 0, 1.0);
+        goes("ae3;af5;ei3;ej4;fi5;im5;jm9", 8, 1, 1.0);
+        // The cuts beside the first column alone, and before the last one alone.
+        goes("ae2;ei9;ip9", 2, 0, 1.0);
+        goes("ae9;ei8;ip1", 1, 0, 1 / 9.0);
         goes("ae50;be50;ce50;de50;em50;en50;eo50;ep50", 200, 0, 1.0);
         goes("ae9;be4;ei6;ej3;im2;jm9;el1;lp5", 6, 3, 6 / 13.0);
+    }
+
+    /** Nothing is left over from a look at other ribbons. */
+    private static void looksAreFresh() {
+        RibbonPosts posts = Checks.drawn("ae9;em4;am7;bn6");
+        CHECKS.same("count(6) of four", posts.count(6), 17);
+        CHECKS.same("count(7) of four", posts.count(7), 17);
+        CHECKS.same("mainRibbon of four", posts.mainRibbon(), 2);
+        posts.remove(2);
+        CHECKS.same("count(6) of three", posts.count(6), 10);
+        CHECKS.same("count(7) of three", posts.count(7), 10);
+        CHECKS.same("mainRibbon of three", posts.mainRibbon(), 2);
+        posts.widen(2, 1);
+        CHECKS.same("count(6) after widen", posts.count(6), 5);
+        CHECKS.same("count(7) after widen", posts.count(7), 5);
+        CHECKS.same("mainRibbon after widen", posts.mainRibbon(), 0);
+        CHECKS.same("throughShare after widen", posts.throughShare(), 5 / 10.0);
     }
 
     private static void mainRibbon() {
