@@ -4,7 +4,33 @@ final class Checks {
         long answer();
     }
 
+    /** Far above the few seconds that a test takes. */
+    private static final long MOST_MILLIS = 120000;
+
+    static {
+        Thread watch = new Thread(Checks::endWhatHangs);
+        watch.setDaemon(true);
+        watch.start();
+    }
+
     private int wrong;
+    /** Stands before each report: the sentence that is held, if there is one. */
+    private String about = "";
+
+    void about(String sentence) {
+        about = sentence;
+    }
+
+    /** A program that is broken may not end; the test must, and fail. */
+    private static void endWhatHangs() {
+        try {
+            Thread.sleep(MOST_MILLIS);
+        } catch (InterruptedException early) {
+            return;
+        }
+        System.out.println("the test does not end");
+        Runtime.getRuntime().halt(1);
+    }
 
     void same(String what, long got, long due) {
         if (got != due) {
@@ -40,7 +66,7 @@ final class Checks {
     void report(String line) {
         wrong++;
         if (wrong <= 40) {
-            System.out.println(line);
+            System.out.println(about + line);
         }
     }
 
@@ -73,7 +99,8 @@ final class Checks {
     /** The ribbons as a text, those with the width 0 too. */
     static String told(RibbonPosts posts) {
         StringBuilder text = new StringBuilder();
-        for (int ribbon = 0; ribbon < posts.count(0); ribbon++) {
+        int ribbons = posts.count(0);
+        for (int ribbon = 0; ribbon < ribbons; ribbon++) {
             text.append(ribbon == 0 ? "" : ";");
             text.append((char) ('a' + posts.ribbonOf(ribbon, 0)));
             text.append((char) ('a' + posts.ribbonOf(ribbon, 1)));
@@ -87,6 +114,15 @@ final class Checks {
         if (!got.equals(due)) {
             report(what + " left " + got + ", due is " + due);
         }
+    }
+
+    /** All that a snapshot holds: the ribbons, the places, and what is trimmed. */
+    static String state(RibbonPosts posts) {
+        StringBuilder text = new StringBuilder(told(posts));
+        for (int column = 0; column < 4; column++) {
+            text.append(" column ").append(places(posts, column));
+        }
+        return text.append(" trimmed ").append(posts.count(8)).toString();
     }
 
     /** The places of the posts of a column, in the order of their numbers, as digits. */

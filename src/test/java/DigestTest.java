@@ -15,7 +15,7 @@ final class DigestTest {
         hash = 31 * hash + value;
     }
 
-    private static long due(RibbonPosts posts, boolean first, boolean second, String buffer) {
+    static long due(RibbonPosts posts, boolean first, boolean second, String buffer) {
         DigestTest list = new DigestTest();
         list.hash = 3527;
         for (int what = 0; what <= 9; what++) {
@@ -55,34 +55,52 @@ final class DigestTest {
         CHECKS.same("digest of a new object", new RibbonPosts().digest(), NEW_OBJECT);
     }
 
-    private static final long NEW_OBJECT = -2365102730754106132L;
+    static final long NEW_OBJECT = -2365102730754106132L;
 
     private static void states() {
-        RibbonPosts posts = Checks.drawn("af9;be3;em2;jp6;na40;bi7;al2;cj9");
+        RibbonPosts posts = stepped(0);
         CHECKS.same("digest of ribbons", posts.digest(), due(posts, false, false, ""));
-        posts.keep(1);
+        posts = stepped(1);
         CHECKS.same("digest with slot 1", posts.digest(), due(posts, false, true, ""));
-        posts.keep(0);
-        posts.order(1);
+        posts = stepped(2);
         CHECKS.same("digest with both slots", posts.digest(), due(posts, true, true, ""));
-        posts.trim(4);
-        Checks.write(posts, "ae10;~!");
+        posts = stepped(3);
         CHECKS.same("digest with a buffer", posts.digest(), due(posts, true, true, "ae10;~!"));
-        posts.settle();
-        posts.clearBuffer();
+        posts = stepped(4);
         CHECKS.same("digest of even posts", posts.digest(), due(posts, true, true, ""));
-        CHECKS.same("digest changes nothing", posts.digest(), due(posts, true, true, ""));
+        CHECKS.same("digest changes nothing", stepped(4).digest(), posts.digest());
+    }
+
+    /** A new object for each look, since due() takes half of the calls that an object has. */
+    private static RibbonPosts stepped(int steps) {
+        RibbonPosts posts = Checks.drawn("af9;be3;em2;jp6;na40;bi7;al2;cj9");
+        if (steps > 0) {
+            posts.keep(1);
+        }
+        if (steps > 1) {
+            posts.keep(0);
+            posts.order(1);
+        }
+        if (steps > 2) {
+            posts.trim(4);
+            Checks.write(posts, "ae10;~!");
+        }
+        if (steps > 3) {
+            posts.settle();
+            posts.clearBuffer();
+        }
+        return posts;
     }
 
     /** The bits of many shares, made by hand in the class. */
     private static void shares() {
+        RibbonPosts none = Checks.drawn("ae5");
+        CHECKS.same("digest of the share 0", none.digest(), due(none, false, false, ""));
         for (int through = 1; through <= 50; through++) {
             for (int rest = 1; rest <= 50; rest += 7) {
                 RibbonPosts posts = Checks.drawn("am" + through + ";ae" + rest + ";be50;be49");
                 CHECKS.same("digest of a share " + posts.throughShare(), posts.digest(),
                         due(posts, false, false, ""));
-                posts.widen(0, 0);
-                CHECKS.same("digest of the share 0", posts.digest(), due(posts, false, false, ""));
             }
         }
     }

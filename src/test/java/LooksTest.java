@@ -119,9 +119,9 @@ final class LooksTest {
 
     /** What is told pair by pair and width by width is the same for each two of 50 widths. */
     private static void byWidths() {
-        RibbonPosts posts = Checks.drawn("aj1;bi1;aj1;ci1");
         for (int width = 0; width <= 50; width += 7) {
             for (int other = 1; other <= 50; other += 7) {
+                RibbonPosts posts = Checks.drawn("aj1;bi1;aj1;ci1");
                 posts.widen(0, width);
                 posts.widen(1, other);
                 int due = Math.min(width, other) + Math.min(width, 1) + 2;
