@@ -157,6 +157,32 @@ final class RibbonEdges {
                     new int[] {-1, 51, Integer.MIN_VALUE, Integer.MAX_VALUE}, (posts, width) -> posts.widen(2, width)));
     }
 
+    private void asNeverThere(String text) {
+        RibbonPosts without = new RibbonPosts();
+        RibbonPosts removed = Checks.drawn(text);
+        int last = removed.count(0) - 1;
+        for (int ribbon = 0; ribbon < last; ribbon++) {
+            without.ribbon(removed.ribbonOf(ribbon, 0), removed.ribbonOf(ribbon, 1), removed.ribbonOf(ribbon, 2));
+        }
+        removed.remove(last);
+        sixSaved(without);
+        sixSaved(removed);
+        edges.same("digest without the last of " + text, removed.digest(), without.digest());
+        for (int column = 0; column <= 3; column++) {
+            edges.same("order without the last of " + text, removed.order(column), without.order(column));
+        }
+        edges.same("sweep without the last of " + text, removed.sweep(), without.sweep());
+        edges.same("settle without the last of " + text, removed.settle(), without.settle());
+        edges.same("state without the last of " + text, Checks.state(removed), Checks.state(without));
+    }
+
+    /** An even number of swaps, so that the order stays. */
+    private static void sixSaved(RibbonPosts posts) {
+        for (int call = 0; call < 6; call++) {
+            posts.swap(0, 1);
+        }
+    }
+
     private void remove() {
         String takes = "Takes a ribbon away; those behind it get numbers that are 1 less.";
         edges.promise(4, takes, () -> {
@@ -176,6 +202,16 @@ final class RibbonEdges {
             edges.same("ribbons", posts.count(0), 19);
             edges.same("the last of 20", posts.ribbonOf(18, 2), 20);
             edges.same("no 19 then", "" + Checks.outcome(() -> posts.ribbonOf(19, 2)), "" + Edges.INDEX);
+        });
+        edges.promise(4, takes, () -> {
+            // The last one crosses, widens, leads through; without it all is as if it had never been.
+            asNeverThere("be5;cf6;cj4;fn3;af9");
+            asNeverThere("ae1;bf1;ei1;ch1;dg1");
+            asNeverThere("ah5;be5");
+            asNeverThere("be5;ce6;af9");
+            asNeverThere("am3;bn2;bm1;do9");
+            asNeverThere("am3;ei2;pa9");
+            asNeverThere("ae5");
         });
         edges.promise(4, "Undoable.", () -> {
             edges.undoable(Edges::rich, "remove", posts -> posts.remove(0));

@@ -295,6 +295,7 @@ final class TermEdges {
             // What nobody took can't be given back.
             most("ai5;ei5;em5;af5;fj5;jn5", 5);
             most("ae3;em2;ei3;im3", 3);
+            most("im1;fi3;bf2;im3", 2);
         });
     }
 
