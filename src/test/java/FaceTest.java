@@ -1,15 +1,20 @@
+import java.io.IOException;
 import java.lang.reflect.Constructor;
 import java.lang.reflect.Field;
 import java.lang.reflect.Member;
 import java.lang.reflect.Method;
 import java.lang.reflect.Modifier;
+import java.nio.file.Files;
+import java.nio.file.Path;
 import java.util.Arrays;
 import java.util.Set;
 import java.util.TreeSet;
 
-/** The public face, with its throws clauses, and nothing else that is not private. */
+/** "The public face" of the document, with its throws clauses, and nothing else that is not private. */
 final class FaceTest {
     private static final Checks CHECKS = new Checks();
+    private static final Path DOC = Path.of("../shared/DOC.md");
+    private static final Path PROGRAM = Path.of("src/main/java/RibbonPosts.java");
     private static final String INDEX = "IndexOutOfBoundsException";
     private static final String ARGUMENT = "IllegalArgumentException";
     private static final String STATE = "IllegalStateException";
@@ -42,11 +47,33 @@ final class FaceTest {
         "long digest()",
     };
 
-    public static void main(String[] args) {
+    public static void main(String[] args) throws IOException {
+        linesOfDocument();
         methods();
         membersAreApart();
         classesInside();
         CHECKS.end();
+    }
+
+    /** Each line of the document's face stands in the program, by its words: names of parameters, order of throws. */
+    private static void linesOfDocument() throws IOException {
+        if (!Files.exists(DOC)) {
+            return;
+        }
+        String document = Files.readString(DOC);
+        int begin = document.indexOf("```java") + "```java".length();
+        String[] lines = document.substring(begin, document.indexOf("```", begin)).split("\n");
+        String program = Files.readString(PROGRAM).replaceAll("\\s+", " ");
+        int faces = 0;
+        for (String line : lines) {
+            String due = line.trim().replaceAll("\\);$", ") {").replaceAll("Exception;$", "Exception {");
+            if (!program.contains(due)) {
+                CHECKS.report("the program has not: " + due);
+            }
+            faces += due.startsWith("public") ? 1 : 0;
+        }
+        // The class, its constant and its constructor stand beside the calls.
+        CHECKS.same("lines of the face", faces, FACE.length + 3);
     }
 
     private static String told(Method method) {
